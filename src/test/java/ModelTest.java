@@ -614,7 +614,10 @@ public final class ModelTest {
         }
 
         private String plainText() {
-            switch (random.nextInt(6)) {
+            int shifted = random.nextInt(31);
+            switch (random.nextInt(8)) {
+                case 6: return "(x+" + shifted + ")T-" + (model.shift ? "x-" : "") + random.nextInt(31);
+                case 7: return "(x+" + shifted + ")^2T^2-2(x+" + shifted + ")T+2";
                 case 0: return "(T-" + random.nextInt(31) + "x-" + random.nextInt(31) + ")(T-" + random.nextInt(31) + ")";
                 case 1: return "x^" + random.nextInt(10) + "+" + random.nextInt(31) + "x-" + random.nextInt(31);
                 case 2: return "xT-" + random.nextInt(13);

@@ -217,6 +217,7 @@ public final class PromiseTest {
             "x^(2)", "x^2^3", "x^1^1", "()", "(", ")", "(1", "1)", "(1))", "((1)", "(+)", "(1+)", "(*1)", "y", "X", "t",
             "1,2", "1.5", "x/2", "2x_", "x!", "{1}", "[1]", "T^9)", "(T^9", "T^9+", "T^9T^9y", "x^9x^9*", "(((((1)))))",
             "1+(((((x)))))", "(T^9)^9^", "~", "1=1", "\"", "x^9^", "T^^2", "(1)^(2)", "(x^9x^9)(", "2^x",
+            "(1]", "(x,", "(1y", "2(x}T",
         };
         for (int kind = 0; kind < 2; kind++) {
             for (String text : none) {
@@ -318,6 +319,9 @@ public final class PromiseTest {
         dueRegister(desk, 4, "T^4");
         due("multiply to order 7", desk.multiply(5, 4, 5), OreSolver.LARGE);
         dueRegister(desk, 5, "T^3");
+        due("multiply to order 8", desk.multiply(5, 4, 4), OreSolver.LARGE);
+        due("multiply to degree 24", desk.multiply(5, 7, 7), OreSolver.LARGE);
+        dueRegister(desk, 5, "T^3");
         desk.add(6, 6, 6, 30);
         due("multiply by 0", desk.multiply(4, 4, 6), 0);
         dueRegister(desk, 4, "0");
@@ -345,6 +349,7 @@ public final class PromiseTest {
         dueRegister(desk, 5, "0");
         put(desk, 6, "x^2T-11x");
         due("apply with a large result", desk.apply(5, 6, 2), OreSolver.LARGE);
+        due("apply to degree 24", desk.apply(5, 2, 2), OreSolver.LARGE);
         due("apply to an operator", desk.apply(5, 6, 3), OreSolver.ORDER);
         due("apply to 0", desk.apply(0, 0, 7), 0);
         dueRegister(desk, 0, "0");
@@ -388,6 +393,16 @@ public final class PromiseTest {
         due("divide with a rest of degree 12", desk.divide(3, 4, 0, 2), 0);
         dueRegister(desk, 3, "T+30x^6");
         dueRegister(desk, 4, "x^12+25x^5");
+        desk = desk(DERIVATIVE, "x^9x^3T^2+x", "2T", "x^9x^3T^4+xT^3", "T^3");
+        due("divide with a quotient of degree 12", desk.divide(5, 6, 0, 1), 0);
+        dueRegister(desk, 5, "16x^12T");
+        dueRegister(desk, 6, "x");
+        due("divide with a quotient of degree 12", desk.divide(5, 6, 2, 3), 0);
+        dueRegister(desk, 5, "x^12T+x");
+        dueRegister(desk, 6, "0");
+        desk = desk(SHIFT, "T^2", "T+x^9x^3", "x^9x^3T");
+        due("divide with a rest of degree 24", desk.divide(5, 6, 0, 1), OreSolver.LARGE);
+        due("divide with a rest of degree 24", desk.divide(5, 6, 2, 1), OreSolver.LARGE);
         desk = desk(SHIFT, "T^4", "T+x^5", "T+x^4", "T-x^3");
         due("divide with a large quotient", desk.divide(4, 5, 0, 1), OreSolver.LARGE);
         due("divide with a rest of degree 16", desk.divide(4, 5, 0, 2), OreSolver.LARGE);
@@ -418,6 +433,10 @@ public final class PromiseTest {
         put(desk, 7, "xT^3");
         due("over of degree 13", desk.over(7, 7, 5), OreSolver.LARGE);
         dueRegister(desk, 7, "xT^3");
+        OreSolver largest = desk(DERIVATIVE, "x^9x^3T^4", "x^9x^3");
+        due("over of degree 60", largest.over(7, 0, 1), OreSolver.LARGE);
+        largest = desk(SHIFT, "x^9x^3T^4", "x^9x^3");
+        due("over of degree 60", largest.over(7, 0, 1), OreSolver.LARGE);
         due("over a number", desk.over(7, 2, 6), 2);
         dueRegister(desk, 7, "25xT^2+6T+13");
         put(desk, 7, "x+2");
@@ -469,6 +488,9 @@ public final class PromiseTest {
             dueBad("solve", () -> desk.solve(0, 2, none));
             dueBad("solve with an operator as right side", () -> desk.solve(0, 4, none));
         }
+        OreSolver twelve = desk(DERIVATIVE, "x^9x^3", "0");
+        due("solve with images of degree 24", twelve.solve(0, 1, 12), 0);
+        due("solve with an image as right side", twelve.solve(0, 0, 12), 0);
         OreSolver shift = desk(SHIFT, "xT-x-5", "0", "T-1", "x^9x^2");
         due("solve", shift.solve(0, 1, 12), 1);
         due("solve", shift.solve(0, 1, 4), 0);
@@ -500,11 +522,32 @@ public final class PromiseTest {
         for (int none : NO_REGISTERS) {
             dueBad("pick", () -> desk.pick(none, 0));
         }
+        pickBases();
         OreSolver zeros = desk(SHIFT, "(T-1)^2", "x", "0");
         due("solve", zeros.solve(0, 1, 12), 2);
         due("pick", zeros.pick(7, 0), 4);
         due("coefficient at a degree of the basis", zeros.coefficient(7, 0, 0), 0);
         due("coefficient at a degree of the basis", zeros.coefficient(7, 0, 1), 0);
+    }
+
+    private static void pickBases() {
+        OreSolver desk = desk(DERIVATIVE, "(x+1)T-3", "(x+1)^2T^2-2(x+1)T+2", "0", "(x+1)^3");
+        due("solve", desk.solve(0, 2, 12), 1);
+        due("pick", desk.pick(7, 1), 4);
+        dueRegister(desk, 7, "x^3+3x^2+3x+1");
+        due("solve", desk.solve(1, 2, 12), 2);
+        due("pick", desk.pick(7, 1), 2);
+        dueRegister(desk, 7, "x+1");
+        due("pick", desk.pick(7, 2), 3);
+        dueRegister(desk, 7, "x^2+30");
+        // (x + 1)^3 / 2, less what it has at the degrees 1 and 2
+        due("solve", desk.solve(1, 3, 12), 2);
+        due("pick", desk.pick(7, 0), 4);
+        dueRegister(desk, 7, "16x^3+16");
+        OreSolver shift = desk(SHIFT, "xT-x-3", "0");
+        due("solve", shift.solve(0, 1, 12), 1);
+        due("pick", shift.pick(7, 1), 4);
+        dueRegister(shift, 7, "x^3+3x^2+2x");
     }
 
     private static void factor() {
@@ -537,8 +580,27 @@ public final class PromiseTest {
         due("factor", shift.factor(4), 2);
         due("line", shift.line(0), 31);
         due("line", shift.line(1), 32);
+        restsWithManyZeros();
         for (int none : NO_REGISTERS) {
             dueBad("factor", () -> shift.factor(none));
+        }
+    }
+
+    /** The rest of a T^4 for x - 15 or so is 0 at 16 places, and still not the polynomial 0. */
+    private static void restsWithManyZeros() {
+        for (int first = 0; first < 31; first++) {
+            OreSolver desk = desk(SHIFT, "x(x-1)(x-2)(x-3)(x-4)(x-5)", "T", "T^4");
+            for (int n = 0; n < (31 - first) % 31; n++) {
+                desk.apply(0, 1, 0);
+            }
+            desk.add(3, 4, 0, 1);
+            for (int n = 0; n < 25; n++) {
+                desk.apply(3, 1, 3);
+            }
+            desk.multiply(0, 0, 3);
+            desk.multiply(0, 0, 2);
+            due("factor", desk.factor(0), 1);
+            due("line", desk.line(0), 0);
         }
     }
 
