@@ -400,6 +400,10 @@ public final class PromiseTest {
         due("divide with a quotient of degree 12", desk.divide(5, 6, 2, 3), 0);
         dueRegister(desk, 5, "x^12T+x");
         dueRegister(desk, 6, "0");
+        desk = desk(DERIVATIVE, "T^3", "T^2+x^9x^3");
+        due("divide by an operator of degree 12", desk.divide(5, 6, 0, 1), 0);
+        dueRegister(desk, 5, "T");
+        dueRegister(desk, 6, "30x^12T+19x^11");
         desk = desk(SHIFT, "T^2", "T+x^9x^3", "x^9x^3T");
         due("divide with a rest of degree 24", desk.divide(5, 6, 0, 1), OreSolver.LARGE);
         due("divide with a rest of degree 24", desk.divide(5, 6, 2, 1), OreSolver.LARGE);
@@ -433,7 +437,9 @@ public final class PromiseTest {
         put(desk, 7, "xT^3");
         due("over of degree 13", desk.over(7, 7, 5), OreSolver.LARGE);
         dueRegister(desk, 7, "xT^3");
-        OreSolver largest = desk(DERIVATIVE, "x^9x^3T^4", "x^9x^3");
+        OreSolver largest = desk(DERIVATIVE, "x^9x^3T^4", "x^9x^3", "T");
+        due("over x^12", largest.over(7, 2, 1), 1);
+        dueRegister(largest, 7, "x^12T+19x^11");
         due("over of degree 60", largest.over(7, 0, 1), OreSolver.LARGE);
         largest = desk(SHIFT, "x^9x^3T^4", "x^9x^3");
         due("over of degree 60", largest.over(7, 0, 1), OreSolver.LARGE);
