@@ -5,11 +5,13 @@ import java.util.List;
 import java.util.Map;
 import java.util.Random;
 import java.util.TreeMap;
+import java.util.function.Predicate;
 
 /**
  * Long runs of calls, from fixed seeds, against a model that reckons in other ways: products by the rule for T^i x^k,
  * over by dividing q^(n+1) L by q from the right, solutions by reducing images one by one, factors by the rest of a
- * division. After each call every register is compared.
+ * division. Behind a run every register is compared, each on a desk of its own on which the run is made again, as a desk
+ * has too few calls for all of them.
  */
 public final class ModelTest {
     private static final int P = 31;
@@ -23,8 +25,8 @@ public final class ModelTest {
     private static final Map<String, Integer> answers = new TreeMap<>();
 
     public static void main(String[] args) {
-        int runs = args.length > 0 ? Integer.parseInt(args[0]) : 400;
-        for (int seed = 0; seed < runs && wrong < 20; seed++) {
+        int runs = args.length > 0 ? Integer.parseInt(args[0]) : 1000;
+        for (int seed = 0; seed < runs && wrong < 5; seed++) {
             new Run(seed).go();
         }
         System.out.println(runs + " runs, " + wrong + " wrong");
@@ -514,80 +516,134 @@ public final class ModelTest {
         }
     }
 
-    /** One run of 512 calls. */
+    private static int ask(Desk desk, String name, int[] n) {
+        switch (name) {
+            case "type": return desk.type((char) n[0]) ? 1 : 0;
+            case "clear": return desk.clear();
+            case "read": return desk.read(n[0]);
+            case "order": return desk.order(n[0]);
+            case "coefficient": return desk.coefficient(n[0], n[1], n[2]);
+            case "add": return desk.add(n[0], n[1], n[2], n[3]);
+            case "multiply": return desk.multiply(n[0], n[1], n[2]);
+            case "apply": return desk.apply(n[0], n[1], n[2]);
+            case "divide": return desk.divide(n[0], n[1], n[2], n[3]);
+            case "over": return desk.over(n[0], n[1], n[2]);
+            case "solve": return desk.solve(n[0], n[1], n[2]);
+            case "pick": return desk.pick(n[0], n[1]);
+            case "factor": return desk.factor(n[0]);
+            case "line": return desk.line(n[0]);
+            case "same": return desk.same(n[0], n[1]) ? 1 : 0;
+            case "show": return desk.show(n[0]);
+            case "at": return desk.at(n[0]);
+            default: throw new IllegalArgumentException(name);
+        }
+    }
+
+    /** One run of calls, of a length that leaves the desk enough of them for the coefficients of one register. */
     private static final class Run {
+        private static final int COEFFICIENTS = 5 * 13;
+
         final int seed;
+        final int kind;
+        final int length;
         final Random random;
-        final OreSolver desk;
+        final Desk desk;
         final Model model;
-        final StringBuilder told = new StringBuilder();
-        int calls = 0;
+        final List<String> names = new ArrayList<>();
+        final List<int[]> numbers = new ArrayList<>();
+        final List<Integer> due = new ArrayList<>();
         boolean failed = false;
 
         Run(int seed) {
             this.seed = seed;
             random = new Random(seed);
-            int kind = seed % 2 == 0 ? 0 : seed % 3 + 1;
-            desk = new OreSolver(kind);
+            kind = seed % 2 == 0 ? 0 : seed % 3 + 1;
+            length = seed % 4 < 2 ? Desk.CALLS - COEFFICIENTS : 50 + random.nextInt(200);
+            desk = new Desk(kind);
             model = new Model(kind);
-            told.append("new OreSolver(").append(kind).append(")\n");
         }
 
-        private int ask(String name, int[] n) {
-            switch (name) {
-                case "type": return desk.type((char) n[0]) ? 1 : 0;
-                case "clear": return desk.clear();
-                case "read": return desk.read(n[0]);
-                case "order": return desk.order(n[0]);
-                case "coefficient": return desk.coefficient(n[0], n[1], n[2]);
-                case "add": return desk.add(n[0], n[1], n[2], n[3]);
-                case "multiply": return desk.multiply(n[0], n[1], n[2]);
-                case "apply": return desk.apply(n[0], n[1], n[2]);
-                case "divide": return desk.divide(n[0], n[1], n[2], n[3]);
-                case "over": return desk.over(n[0], n[1], n[2]);
-                case "solve": return desk.solve(n[0], n[1], n[2]);
-                case "pick": return desk.pick(n[0], n[1]);
-                case "factor": return desk.factor(n[0]);
-                case "line": return desk.line(n[0]);
-                case "same": return desk.same(n[0], n[1]) ? 1 : 0;
-                case "show": return desk.show(n[0]);
-                case "at": return desk.at(n[0]);
-                default: throw new IllegalArgumentException(name);
+        private void tell(String fault) {
+            failed = true;
+            wrong++;
+            System.out.println("seed " + seed + ": " + fault + " behind these, with what is due:\nnew OreSolver(" + kind + ")");
+            for (int call = 0; call < names.size(); call++) {
+                System.out.println(names.get(call) + Arrays.toString(numbers.get(call)) + " = " + due.get(call));
             }
         }
 
         private int both(String name, int... n) {
-            if (failed || calls >= 512) {
+            if (failed || names.size() >= length) {
                 return 0;
             }
-            calls++;
             int want = model.call(name, n);
-            int got = ask(name, n);
-            told.append(name).append(Arrays.toString(n)).append(" = ").append(got).append('\n');
+            names.add(name);
+            numbers.add(n);
+            due.add(want);
             answers.merge(name + " " + Math.min(want, 3), 1, Integer::sum);
-            if (got != want || !registersAgree()) {
-                failed = true;
-                wrong++;
-                System.out.println("seed " + seed + ", due is " + want + " behind:\n" + told);
+            int got = ask(desk, name, n);
+            if (got != want) {
+                tell("answered " + got);
             }
             return want;
         }
 
-        private boolean registersAgree() {
-            for (int r = 0; r < 8; r++) {
-                for (int i = 0; i <= 4; i++) {
-                    for (int k = 0; k <= 12; k++) {
-                        if (desk.coefficient(r, i, k) != model.registers[r].at(i, k)) {
-                            return false;
-                        }
-                    }
+        private void compareRegister(int register) {
+            Desk again = new Desk(kind);
+            for (int call = 0; call < names.size(); call++) {
+                ask(again, names.get(call), numbers.get(call));
+            }
+            for (int place = 0; place < COEFFICIENTS && !failed; place++) {
+                int i = place / 13;
+                int k = place % 13;
+                int got = again.coefficient(register, i, k);
+                if (got != model.registers[register].at(i, k)) {
+                    tell("register " + register + " has " + got + " at x^" + k + " T^" + i);
                 }
             }
-            return true;
+        }
+
+        /** Most faults in a result show in its text, before the register is written again. */
+        private void glance(int register) {
+            int length = both("show", register);
+            both("at", random.nextInt(Math.max(length, 0) + 1));
+            both("at", length - 1);
+        }
+
+        private void write(String name, int... n) {
+            both(name, n);
+            glance(n[0]);
+            if (name.equals("divide")) {
+                glance(n[1]);
+            }
         }
 
         private int register() {
             return random.nextInt(60) == 0 ? (random.nextBoolean() ? 8 : -1) : random.nextInt(8);
+        }
+
+        /** Mostly a register that holds what the call is made for, if there is one. */
+        private int holding(Predicate<Op> wish) {
+            List<Integer> right = new ArrayList<>();
+            for (int r = 0; r < 8; r++) {
+                if (wish.test(model.registers[r])) {
+                    right.add(r);
+                }
+            }
+            boolean any = right.isEmpty() || random.nextInt(6) == 0;
+            return any ? register() : right.get(random.nextInt(right.size()));
+        }
+
+        private int operator() {
+            return holding(op -> op.order() >= 0);
+        }
+
+        private int polynomial() {
+            return holding(op -> op.order() == 0);
+        }
+
+        private int divisor() {
+            return holding(op -> op.order() > 0 && op.degree(op.order()) == 0);
         }
 
         private String atom(int depth) {
@@ -640,43 +696,48 @@ public final class ModelTest {
             for (int n = 0; n < text.length(); n++) {
                 both("type", text.charAt(n));
             }
-            both("read", register());
+            write("read", register());
         }
 
         private void solveAndPick() {
-            int dimension = both("solve", register(), register(), random.nextInt(15) - 1);
+            int dimension = both("solve", operator(), random.nextInt(3) == 0 ? register() : polynomial(), random.nextInt(15) - 1);
             for (int i = 0; i <= dimension + 1; i += 1 + random.nextInt(4)) {
-                both("pick", register(), i);
+                write("pick", register(), i);
+            }
+        }
+
+        private void factorAndLine() {
+            int count = random.nextInt(3) > 0 ? 0 : both("factor", operator());
+            for (int i = -1; i <= count; i++) {
+                both("line", i);
             }
         }
 
         void go() {
-            while (calls < 512 && !failed) {
+            while (names.size() < length && !failed) {
                 switch (random.nextInt(18)) {
                     case 0: case 1: case 2: typeText(); break;
-                    case 3: case 4: both("add", register(), register(), register(), random.nextInt(33) - 1); break;
-                    case 5: case 6: both("multiply", register(), register(), register()); break;
-                    case 7: both("apply", register(), register(), register()); break;
-                    case 8: case 9: both("divide", register(), register(), register(), register()); break;
-                    case 10: case 11: both("over", register(), register(), register()); break;
+                    case 3: case 4: write("add", register(), register(), operator(), random.nextInt(33) - 1); break;
+                    case 5: case 6: write("multiply", register(), operator(), operator()); break;
+                    case 7: write("apply", register(), operator(), polynomial()); break;
+                    case 8: case 9: write("divide", register(), register(), operator(), divisor()); break;
+                    case 10: case 11: write("over", register(), operator(), polynomial()); break;
                     case 12: case 13: solveAndPick(); break;
                     case 14:
-                        if (random.nextInt(4) == 0) {
-                            int count = both("factor", register());
-                            for (int i = -1; i <= count; i++) {
-                                both("line", i);
-                            }
-                        }
+                        factorAndLine();
                         break;
-                    case 15: both("same", register(), register()); break;
+                    case 15: both("same", operator(), operator()); break;
                     case 16:
                         int length = both("show", register());
                         both("at", random.nextInt(length + 3) - 1);
                         break;
                     default:
-                        both("order", register());
-                        both("coefficient", register(), random.nextInt(7) - 1, random.nextInt(15) - 1);
+                        both("order", operator());
+                        both("coefficient", operator(), random.nextInt(7) - 1, random.nextInt(15) - 1);
                 }
+            }
+            for (int register = 0; register < 8 && !failed; register++) {
+                compareRegister(register);
             }
         }
     }
