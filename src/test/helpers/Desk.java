@@ -5,6 +5,8 @@
 public final class Desk {
     static final int DERIVATIVE = 0;
     static final int SHIFT = 1;
+    static final int[] KINDS = {DERIVATIVE, SHIFT};
+    static final int[] NO_REGISTERS = {-1, 8, 9, -8, 31, 256, Integer.MIN_VALUE, Integer.MAX_VALUE};
     static final int CALLS = 512;
 
     private final OreSolver solver;

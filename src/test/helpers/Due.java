@@ -2,6 +2,8 @@
 public final class Due {
     private static int wrong = 0;
     private static int checks = 0;
+    private static int sentences = 0;
+    private static int checksBefore = 0;
     private static String subject = "";
 
     private Due() {
@@ -12,8 +14,18 @@ public final class Due {
         subject = words;
     }
 
-    static int checks() {
-        return checks;
+    /** Names the sentence that the checks that follow are about. */
+    static void sentence(String words) {
+        endSentence();
+        sentences++;
+        checksBefore = checks;
+        about(words);
+    }
+
+    private static void endSentence() {
+        if (sentences > 0 && checks == checksBefore) {
+            fault("this sentence has no check");
+        }
     }
 
     static void fault(String words) {
@@ -40,9 +52,28 @@ public final class Due {
         be("what register " + register + " holds", desk.shown(register), want);
     }
 
+    /** The text is read, and says what is wanted. */
+    static void read(int kind, String text, String want) {
+        Desk desk = new Desk(kind, "5T^3");
+        int answer = desk.put(0, text);
+        be("read of " + text, answer, desk.order(0) + 1);
+        be("what was read from " + text, desk.shown(0), want);
+    }
+
+    /** The texts are refused, and the register stays as it was. */
+    static void refuse(int kind, int answer, String... texts) {
+        for (String text : texts) {
+            Desk desk = new Desk(kind, "5T^3");
+            be("read of " + text, desk.put(0, text), answer);
+            be("what is held behind read of " + text, desk.shown(0), "5T^3");
+        }
+    }
+
     /** Ends the test, with exit code 1 if something was wrong. */
     static void end() {
-        System.out.println(checks + " checks, " + wrong + " wrong");
+        endSentence();
+        String head = sentences > 0 ? sentences + " tests of sentences, " : "";
+        System.out.println(head + checks + " checks, " + wrong + " wrong");
         if (wrong != 0) {
             System.exit(1);
         }

@@ -87,8 +87,9 @@ public final class FaceTest {
     private static void source() throws Exception {
         String code = Files.readString(SOURCE);
         code = code.replaceAll("(?s)/\\*.*?\\*/", "").replaceAll("//[^\n]*", "");
-        for (String none : new String[] {"\\) *->", "::", "\\bpackage\\b", "\\bfinally\\b", "\\bsynchronized\\b", "\\bassert\\b",
-            "\\bnative\\b", "Exact\\b", "\\bstatic\\s*\\{", "\\bSystem\\.(?!arraycopy)", "\\bThread\\b", "\\bRandom\\b"}) {
+        for (String none : new String[] {"\\) *->", "::", "\\bpackage\\b", "\\bfinally\\b", "\\bsynchronized\\b",
+            "\\bassert\\b", "\\bnative\\b", "Exact\\b", "\\bstatic\\s*\\{", "\\bSystem\\.(?!arraycopy)", "\\bThread\\b",
+            "\\bRandom\\b"}) {
             Matcher found = Pattern.compile(none).matcher(code);
             due("the source having " + none, found.find(), false);
         }
@@ -109,7 +110,8 @@ public final class FaceTest {
             desk.type(text[n]);
         }
         sum += desk.read(0) + desk.order(0) + desk.coefficient(0, 1, 1) + desk.add(1, 0, 0, 2) + desk.multiply(2, 0, 1);
-        sum += desk.solve(0, 7, 12) + desk.pick(3, 1) + desk.apply(4, 0, 3) + desk.divide(5, 6, 1, 0) + desk.over(6, 0, 3);
+        sum += desk.solve(0, 7, 12) + desk.pick(3, 1) + desk.apply(4, 0, 3) + desk.divide(5, 6, 1, 0);
+        sum += desk.over(6, 0, 3);
         sum += desk.factor(2) + desk.line(0) + desk.show(2) + desk.at(3) + (desk.same(0, 1) ? 1 : 0);
         return sum;
     }

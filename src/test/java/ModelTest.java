@@ -10,8 +10,8 @@ import java.util.function.Predicate;
 /**
  * Long runs of calls, from fixed seeds, against a model that reckons in other ways: products by the rule for T^i x^k,
  * over by dividing q^(n+1) L by q from the right, solutions by reducing images one by one, factors by the rest of a
- * division. Behind a run every register is compared, each on a desk of its own on which the run is made again, as a desk
- * has too few calls for all of them.
+ * division. Behind a run every register is compared, each on a desk of its own on which the run is made again, as a
+ * desk has too few calls for all of them.
  */
 public final class ModelTest {
     private static final int P = 31;
@@ -566,7 +566,8 @@ public final class ModelTest {
         private void tell(String fault) {
             failed = true;
             wrong++;
-            System.out.println("seed " + seed + ": " + fault + " behind these, with what is due:\nnew OreSolver(" + kind + ")");
+            System.out.println("seed " + seed + ": " + fault + " behind these, with what is due:");
+            System.out.println("new OreSolver(" + kind + ")");
             for (int call = 0; call < names.size(); call++) {
                 System.out.println(names.get(call) + Arrays.toString(numbers.get(call)) + " = " + due.get(call));
             }
@@ -674,7 +675,7 @@ public final class ModelTest {
             switch (random.nextInt(8)) {
                 case 6: return "(x+" + shifted + ")T-" + (model.shift ? "x-" : "") + random.nextInt(31);
                 case 7: return "(x+" + shifted + ")^2T^2-2(x+" + shifted + ")T+2";
-                case 0: return "(T-" + random.nextInt(31) + "x-" + random.nextInt(31) + ")(T-" + random.nextInt(31) + ")";
+                case 0: return "(T-" + shifted + "x-" + random.nextInt(31) + ")(T-" + random.nextInt(31) + ")";
                 case 1: return "x^" + random.nextInt(10) + "+" + random.nextInt(31) + "x-" + random.nextInt(31);
                 case 2: return "xT-" + random.nextInt(13);
                 case 3: return "(T-" + random.nextInt(4) + ")^" + random.nextInt(4);
@@ -700,7 +701,8 @@ public final class ModelTest {
         }
 
         private void solveAndPick() {
-            int dimension = both("solve", operator(), random.nextInt(3) == 0 ? register() : polynomial(), random.nextInt(15) - 1);
+            int right = random.nextInt(3) == 0 ? register() : polynomial();
+            int dimension = both("solve", operator(), right, random.nextInt(15) - 1);
             for (int i = 0; i <= dimension + 1; i += 1 + random.nextInt(4)) {
                 write("pick", register(), i);
             }

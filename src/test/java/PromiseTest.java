@@ -147,7 +147,8 @@ public final class PromiseTest {
     private static void readSyntax() {
         Due.about("promise 4, SYNTAX");
         String[] none = {
-            "", "+", "-", "--1", "+-1", "1--1", "1+-1", "1+", "1-", "*1", "1*", "1**1", "1*-1", "^2", "x^", "x^x", "x^-1",
+            "", "+", "-", "--1", "+-1", "1--1", "1+-1", "1+", "1-", "*1", "1*", "1**1", "1*-1", "^2", "x^", "x^x",
+            "x^-1",
             "x^(2)", "x^2^3", "x^1^1", "()", "(", ")", "(1", "1)", "(1))", "((1)", "(+)", "(1+)", "(*1)", "y", "X", "t",
             "1,2", "1.5", "x/2", "2x_", "x!", "{1}", "[1]", "T^9)", "(T^9", "T^9+", "T^9T^9y", "x^9x^9*", "(((((1)))))",
             "1+(((((x)))))", "(T^9)^9^", "~", "1=1", "\"", "x^9^", "T^^2", "(1)^(2)", "(x^9x^9)(", "2^x",
@@ -347,12 +348,11 @@ public final class PromiseTest {
         Due.be("divide with a rest of degree 12", desk.divide(4, 5, 0, 3), 0);
         Due.be("coefficient", desk.coefficient(5, 0, 12), 1);
         for (int none : NO_REGISTERS) {
-            Desk one = desk;
-            Due.bad("divide", one.divide(none, 1, 0, 3));
-            Due.bad("divide", one.divide(0, none, 0, 3));
-            Due.bad("divide", one.divide(0, 1, none, 3));
-            Due.bad("divide", one.divide(0, 1, 0, none));
-            Due.bad("divide by 0", one.divide(none, 1, 0, 7));
+            Due.bad("divide", desk.divide(none, 1, 0, 3));
+            Due.bad("divide", desk.divide(0, none, 0, 3));
+            Due.bad("divide", desk.divide(0, 1, none, 3));
+            Due.bad("divide", desk.divide(0, 1, 0, none));
+            Due.bad("divide by 0", desk.divide(none, 1, 0, 7));
         }
     }
 
@@ -580,7 +580,8 @@ public final class PromiseTest {
 
     private static void show() {
         Due.about("promise 17");
-        Desk desk = new Desk(DERIVATIVE, "0", "1", "x", "T", "2xT", "30x^9x^3T^4+x^9x^3T+x^9x+10T^2+12", "T^2+2T+1", "x^2-x");
+        Desk desk = new Desk(DERIVATIVE, "0", "1", "x", "T", "2xT", "30x^9x^3T^4+x^9x^3T+x^9x+10T^2+12", "T^2+2T+1",
+            "x^2-x");
         String[] texts = {"0", "1", "x", "T", "2xT", "30x^12T^4+10T^2+x^12T+x^10+12", "T^2+2T+1", "x^2+30x"};
         for (int register = 0; register < 8; register++) {
             Due.hold(desk, register, texts[register]);
